@@ -1,0 +1,122 @@
+/** Compares answers with those that are due, and what several tests need to set a ledger up. */
+final class Due {
+    private static final int MOST_SEEDS = 20_000_000;
+
+    private static int asked = 0;
+    private static int wrong = 0;
+
+    private Due() {
+    }
+
+    static void is(String call, int got, int due) {
+        asked++;
+        if (got != due) {
+            wrong++;
+            System.out.println(call + " answered " + got + ", due is " + due);
+        }
+    }
+
+    static void holds(String what, boolean holds) {
+        asked++;
+        if (!holds) {
+            wrong++;
+            System.out.println("does not hold: " + what);
+        }
+    }
+
+    /** The call has to be refused with STATE and this reason. */
+    static void refused(String call, EncounterLedger ledger, int got, int reason) {
+        is(call, got, EncounterLedger.STATE);
+        is("reason() behind " + call, ledger.reason(), reason);
+    }
+
+    static void end(String test) {
+        System.out.println(test + ": " + asked + " answers, " + wrong + " not as due");
+        if (wrong != 0) {
+            System.exit(1);
+        }
+    }
+
+    static void feed(EncounterLedger ledger, String text) {
+        for (int i = 0; i < text.length(); i += 5) {
+            int[] bytes = new int[5];
+            int n = Math.min(5, text.length() - i);
+            for (int k = 0; k < n; k++) {
+                bytes[k] = text.charAt(i + k);
+            }
+            ledger.feed(n, bytes[0], bytes[1], bytes[2], bytes[3], bytes[4]);
+        }
+    }
+
+    static int read(EncounterLedger ledger, int power, String text) {
+        feed(ledger, text);
+        return ledger.power(power);
+    }
+
+    static int cell(int column, int row) {
+        return 10 * row + column;
+    }
+
+    /** A seed whose first draws are these. */
+    static int seed(int... draws) {
+        for (int seed = 0; seed < MOST_SEEDS; seed++) {
+            int z = seed;
+            int found = 0;
+            while (found < draws.length) {
+                z = z * 1103515245 + 12345;
+                if (1 + (z >>> 16) % 20 != draws[found]) {
+                    break;
+                }
+                found++;
+            }
+            if (found == draws.length) {
+                return seed;
+            }
+        }
+        throw new IllegalStateException("no such seed");
+    }
+
+    /** Ends turns until it is the turn of this fighter, at least one if it is its turn now. */
+    static void nextTurnOf(EncounterLedger ledger, int fighter) {
+        for (int i = 0; i < 16; i++) {
+            if (ledger.endTurn() == fighter) {
+                return;
+            }
+        }
+        throw new IllegalStateException("no turn of " + fighter);
+    }
+
+    /** All that the answers tell of a ledger but for its reason, tape and changes. */
+    static int[] look(EncounterLedger x) {
+        int[] told = new int[4000];
+        int n = 0;
+        for (int fighter = 0; fighter < 8; fighter++) {
+            for (int what = 0; what < 36; what++) {
+                told[n++] = x.fighter(fighter, what);
+            }
+        }
+        for (int what = 0; what < 18; what++) {
+            told[n++] = x.turn(what);
+        }
+        for (int i = -1; i < 200; i++) {
+            for (int what = 0; what < 6; what++) {
+                told[n++] = x.condition(i, what);
+            }
+        }
+        for (int i = -1; i < 300; i++) {
+            for (int what = 0; what < 3; what++) {
+                told[n++] = x.entry(i, what);
+            }
+        }
+        for (int what = 0; what < 11; what++) {
+            told[n++] = x.account(what);
+        }
+        if (x.turn(0) > 0) {
+            for (int cell = 0; cell < 100; cell++) {
+                told[n++] = x.way(cell);
+            }
+        }
+        told[n++] = x.count(2);
+        return java.util.Arrays.copyOf(told, n);
+    }
+}
