@@ -1156,7 +1156,6 @@ public final class EncounterLedger {
 
         void open(int seed) {
             int z = seed;
-            order.cut(0);
             for (int fighter = 0; fighter < fighters.size(); fighter++) {
                 z = z * 1103515245 + 12345;
                 int draw = 1 + (z >>> 16) % 20;

@@ -136,7 +136,10 @@ public final class ChangesTest {
         Due.is("another image", x.image(), 2);
         x.back();
         Due.is("one fighter", x.account(0), 1);
+        x.add(0, 46, 3, 0, 1);
         Due.is("back leaves the snapshot", x.undo(), 2);
+        Due.is("with its fighter", x.fighter(1, 1), 45);
+        Due.is("and its entries", x.entry(1, 2), 20);
     }
 
     private static void snapshotsKeepWhatTheyDoNotContain() {

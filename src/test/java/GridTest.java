@@ -165,6 +165,18 @@ public final class GridTest {
         Due.is("inside", x.way(90), 9);
         x.wall(41);
         Due.is("through the gap", x.way(2), 10);
+        EncounterLedger y = new EncounterLedger();
+        y.add(1, 0, 10, -5, 1);
+        y.add(0, 1, 10, 9, 1);
+        y.begin(Due.seed(1, 20));
+        Due.is("a row does not go on in the next one", y.way(10), 2);
+        Due.is("from edge to edge", y.way(20), 3);
+        Due.is("the end of the row", y.way(9), 8);
+        y.wall(11);
+        Due.is("a foe in the corner bars the way", y.way(10), 6);
+        y.wall(12);
+        y.wall(2);
+        Due.is("shut in by a foe", y.way(10), -5);
     }
 
     private static void waysPassFriendsAndTheDown() {

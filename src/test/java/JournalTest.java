@@ -7,6 +7,7 @@ public final class JournalTest {
         replayRefusals();
         theFirst300AreKept();
         reasons();
+        downOnesAreCounted();
         accounts();
         Due.end("JournalTest");
     }
@@ -117,6 +118,18 @@ public final class JournalTest {
         Due.refused("back", x, x.back(), 10);
         x.undo();
         Due.is("it is not restored", x.reason(), 10);
+    }
+
+    private static void downOnesAreCounted() {
+        EncounterLedger x = new EncounterLedger();
+        Due.read(x, 0, "s5:h99");
+        x.add(1, 0, 20, -5, 4);
+        x.add(0, 44, 20, 9, 4);
+        x.add(1, 1, 20, -5, 4);
+        x.begin(Due.seed(1, 20, 1));
+        x.cast(0, 0, 0);
+        Due.is("down", x.account(1), 2);
+        Due.is("lives of side 1", x.account(3), 0);
     }
 
     private static void accounts() {

@@ -119,14 +119,26 @@ public final class PowersTest {
     private static void everyPrefixAndEveryByte() {
         String text = "c4:k3129,h07,m5$29";
         String rightPrefixes = " 8 11 12 15 18 ";
+        String digits = "0123456789";
+        String from1 = "123456789";
+        String[] allowed = {"sdcl", "012345", ":", "hmk", "012345", from1, "0123", from1, ",$", "hmk", digits,
+            digits + ",$", ",$", "hmk", digits, digits + ",$", "012", from1, ""};
         for (int length = 0; length <= text.length(); length++) {
             boolean right = rightPrefixes.contains(" " + length + " ");
             EncounterLedger x = new EncounterLedger();
             int got = Due.read(x, 0, text.substring(0, length));
             Due.holds("prefix of length " + length + " answered " + got,
                 right ? got > 0 : got == -100 - length);
-            Due.is("a letter behind " + length, Due.read(x, 0, text.substring(0, length) + "z"),
-                -100 - length);
+            bytesBehind(text.substring(0, length), allowed[length]);
+        }
+    }
+
+    private static void bytesBehind(String prefix, String allowed) {
+        for (char sign = 0; sign < 128; sign++) {
+            int got = Due.read(new EncounterLedger(), 0, prefix + sign);
+            int at = allowed.indexOf(sign) < 0 ? prefix.length() : prefix.length() + 1;
+            Due.holds("byte " + (int) sign + " behind " + prefix + " answered " + got,
+                got == -100 - at || allowed.indexOf(sign) >= 0 && got > 0);
         }
     }
 

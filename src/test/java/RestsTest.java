@@ -53,7 +53,20 @@ public final class RestsTest {
         Due.is("rests", x.account(10), 1);
         Due.is("mended", x.account(5), 8);
         Due.is("up to the greatest", x.rest(0), 1);
+        halfOfAnEvenLife();
         Due.is("rests", x.account(10), 2);
+    }
+
+    private static void halfOfAnEvenLife() {
+        EncounterLedger x = new EncounterLedger();
+        Due.read(x, 0, "s0:h15");
+        x.add(0, 0, 50, 9, 9);
+        x.add(1, 9, 20, -5, 9);
+        x.begin(FIRST);
+        x.cast(0, 9, 0);
+        x.finish();
+        Due.is("half of 20", x.rest(0), 10);
+        Due.is("life", x.fighter(1, 2), 15);
     }
 
     private static void longRest() {

@@ -54,6 +54,11 @@ public final class TurnsTest {
         x.add(0, 90, 20, 1, 5);
         x.begin(Due.seed(12, 10, 12));
         order("like scores", x, 1, 0, 2);
+        EncounterLedger y = new EncounterLedger();
+        y.add(0, 0, 20, 1, 3);
+        y.add(1, 9, 20, 2, 4);
+        y.begin(Due.seed(12, 11));
+        order("bonuses that differ by 1", y, 1, 0);
     }
 
     private static void drawsForManySeeds() {
@@ -68,6 +73,12 @@ public final class TurnsTest {
             for (int i = 0; i < 8; i++) {
                 z = z * 1103515245 + 12345;
                 Due.is("score with seed " + seed, x.fighter(i, 8), i - 5 + 1 + (z >>> 16) % 20);
+            }
+            for (int place = 1; place < 8; place++) {
+                int ahead = x.turn(9 + place);
+                int behind = x.turn(10 + place);
+                int byScore = x.fighter(ahead, 8) - x.fighter(behind, 8);
+                Due.holds("order with seed " + seed, byScore > 0 || byScore == 0 && ahead > behind);
             }
         }
     }
@@ -112,7 +123,9 @@ public final class TurnsTest {
         Due.is("place", x.fighter(0, 7), -5);
         Due.is("score", x.fighter(0, 8), -5);
         Due.refused("finish", x, x.finish(), 1);
-        x.begin(4);
+        int first = x.begin(4);
+        Due.is("the first of the new order", first, x.turn(10));
+        Due.is("whose turn it is", x.turn(1), first);
         Due.refused("begin", x, x.begin(4), 2);
         x.finish();
         Due.refused("endTurn", x, x.endTurn(), 1);
