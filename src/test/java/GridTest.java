@@ -177,6 +177,10 @@ public final class GridTest {
         y.wall(12);
         y.wall(2);
         Due.is("shut in by a foe", y.way(10), -5);
+        EncounterLedger z = new EncounterLedger();
+        z.add(0, 9, 10, 9, 1);
+        z.begin(1);
+        Due.is("no row goes on in the next one", z.way(10), 10);
     }
 
     private static void waysPassFriendsAndTheDown() {

@@ -8,6 +8,7 @@ public final class PowersTest {
         everyPrefixAndEveryByte();
         wrongTextKeepsTheEarlierPower();
         strikes();
+        strikesThatDoNothing();
         strikeRefusals();
         castRefusals();
         castSpends();
@@ -185,6 +186,21 @@ public final class PowersTest {
         Due.is("its number", x.entry(last, 2), 2);
         Due.nextTurnOf(x, 0);
         Due.refused("strike one down", x, x.strike(1), 7);
+    }
+
+    private static void strikesThatDoNothing() {
+        EncounterLedger x = duel(20, 20);
+        Due.read(x, 0, "s0:k2639");
+        x.begin(HERO_FIRST);
+        x.endTurn();
+        x.cast(0, 45, 0);
+        x.endTurn();
+        int before = x.entry(-1, 0);
+        Due.is("a strike on a shield", x.strike(1), 0);
+        Due.is("it makes one entry", x.entry(-1, 0), before + 1);
+        Due.is("it counts", x.account(8), 2);
+        x.finish();
+        Due.is("nothing to mend, too", x.rest(0), 0);
     }
 
     private static void strikeRefusals() {
