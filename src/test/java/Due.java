@@ -4,15 +4,21 @@ final class Due {
 
     private static int asked = 0;
     private static int wrong = 0;
+    private static String about = "";
 
     private Due() {
+    }
+
+    /** The words that the next answers are about; they are printed with each one that is not as due. */
+    static void about(String words) {
+        about = words.isEmpty() ? "" : "[" + words + "] ";
     }
 
     static void is(String call, int got, int due) {
         asked++;
         if (got != due) {
             wrong++;
-            System.out.println(call + " answered " + got + ", due is " + due);
+            System.out.println(about + call + " answered " + got + ", due is " + due);
         }
     }
 
@@ -20,7 +26,7 @@ final class Due {
         asked++;
         if (!holds) {
             wrong++;
-            System.out.println("does not hold: " + what);
+            System.out.println(about + "does not hold: " + what);
         }
     }
 
