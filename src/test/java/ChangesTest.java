@@ -4,10 +4,10 @@ import java.util.Arrays;
 public final class ChangesTest {
     public static void main(String[] args) {
         sixCanBeUndone();
-        eachChangeIsUndone();
         failuresAreNoChanges();
         changesBehindBack();
         snapshots();
+        laterSnapshots();
         snapshotsKeepWhatTheyDoNotContain();
         counts();
         Due.end("ChangesTest");
@@ -29,46 +29,10 @@ public final class ChangesTest {
         Due.is("walls", x.account(9), 2);
     }
 
-    private static void undone(String call, EncounterLedger x, int[] before, int answer) {
-        Due.holds(call + " goes", answer >= 0);
-        Due.holds(call + " changes something", !Arrays.equals(before, Due.look(x)));
-        int changes = x.count(1);
-        Due.is("back behind " + call, x.back(), changes - 1);
-        Due.holds(call + " is undone", Arrays.equals(before, Due.look(x)));
-    }
-
-    private static void eachChangeIsUndone() {
-        EncounterLedger x = new EncounterLedger();
-        undone("add", x, Due.look(x), x.add(0, 44, 20, 9, 4));
-        x.add(0, 44, 20, 9, 4);
-        x.add(1, 45, 20, -5, 4);
-        x.add(1, 55, 20, -5, 4);
-        undone("wall", x, Due.look(x), x.wall(5));
-        undone("amount", x, Due.look(x), x.amount(0, 1, 8));
-        Due.feed(x, "s5:h4,k4209$02");
-        undone("power", x, Due.look(x), x.power(0));
-        Due.read(x, 0, "s5:h4,k0229,k4209$02");
-        Due.is("another power", Due.read(x, 0, "c1:m4"), 1);
-        x.back();
-        undone("begin", x, Due.look(x), x.begin(Due.seed(20, 1, 3)));
-        x.begin(Due.seed(20, 1, 3));
-        undone("move", x, Due.look(x), x.move(34));
-        undone("strike", x, Due.look(x), x.strike(1));
-        undone("cast", x, Due.look(x), x.cast(0, 44, 0));
-        undone("delay", x, Due.look(x), x.delay(2));
-        x.cast(0, 44, 0);
-        Due.is("cast the power that was there before", x.fighter(1, 2), 16);
-        undone("endTurn", x, Due.look(x), x.endTurn());
-        undone("finish", x, Due.look(x), x.finish());
-        x.finish();
-        undone("short rest", x, Due.look(x), x.rest(0));
-        undone("long rest", x, Due.look(x), x.rest(1));
-    }
-
     private static void failuresAreNoChanges() {
         EncounterLedger x = new EncounterLedger();
         x.add(0, 44, 20, 9, 4);
-        int[] before = Due.look(x);
+        int[] before = Edge.look(x);
         x.add(0, 44, 20, 9, 4);
         x.wall(44);
         x.amount(0, 0, 10);
@@ -82,7 +46,7 @@ public final class ChangesTest {
         x.rest(7);
         x.undo();
         Due.is("changes", x.count(1), 1);
-        Due.holds("failures leave the state", Arrays.equals(before, Due.look(x)));
+        Due.holds("failures leave the state", Arrays.equals(before, Edge.look(x)));
         x.feed(1, 1, 0, 0, 0, 0);
         x.image();
         Due.is("feed and image are no changes", x.count(1), 1);
@@ -108,30 +72,45 @@ public final class ChangesTest {
         Due.is("the fourth is one", x.wall(3), 0);
     }
 
-    private static void snapshots() {
-        EncounterLedger x = new EncounterLedger();
-        Due.refused("no snapshot", x, x.undo(), 10);
+    private static void start(EncounterLedger x) {
         x.add(0, 44, 20, 9, 4);
         Due.read(x, 2, "s0:h1");
-        int[] first = Due.look(x);
+    }
+
+    private static void goOn(EncounterLedger x) {
+        x.add(1, 45, 20, -5, 4);
+        x.wall(5);
+        x.begin(Edge.HERO_FIRST);
+        x.strike(1);
+    }
+
+    private static void snapshots() {
+        EncounterLedger first = new EncounterLedger();
+        start(first);
+        EncounterLedger x = new EncounterLedger();
+        Due.refused("no snapshot", x, x.undo(), 10);
+        start(x);
         Due.is("image", x.image(), 1);
         Due.is("changes stay", x.count(1), 2);
-        x.add(1, 45, 20, -5, 4);
-        x.wall(5);
-        x.begin(Due.seed(20, 1));
-        x.strike(1);
-        int[] second = Due.look(x);
+        goOn(x);
         Due.is("undo", x.undo(), 1);
-        Due.holds("as it was", Arrays.equals(first, Due.look(x)));
+        Edge.alike("as it was", first, x);
         Due.is("changes", x.count(1), 0);
         Due.refused("back", x, x.back(), 10);
-        x.add(1, 45, 20, -5, 4);
-        x.wall(5);
-        x.begin(Due.seed(20, 1));
-        x.strike(1);
-        Due.holds("as it would be", Arrays.equals(second, Due.look(x)));
+        EncounterLedger second = new EncounterLedger();
+        start(second);
+        goOn(second);
+        goOn(x);
+        Edge.alike("as it would be", second, x);
         Due.is("undo again", x.undo(), 1);
-        Due.holds("it stays", Arrays.equals(first, Due.look(x)));
+        Due.is("it stays", x.account(0), 1);
+        Due.is("without a wall", x.account(9), 0);
+    }
+
+    private static void laterSnapshots() {
+        EncounterLedger x = new EncounterLedger();
+        start(x);
+        x.image();
         x.add(1, 45, 20, -5, 4);
         Due.is("another image", x.image(), 2);
         x.back();

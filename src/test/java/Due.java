@@ -91,38 +91,4 @@ final class Due {
         }
         throw new IllegalStateException("no turn of " + fighter);
     }
-
-    /** All that the answers tell of a ledger but for its reason, tape and changes. */
-    static int[] look(EncounterLedger x) {
-        int[] told = new int[4000];
-        int n = 0;
-        for (int fighter = 0; fighter < 8; fighter++) {
-            for (int what = 0; what < 36; what++) {
-                told[n++] = x.fighter(fighter, what);
-            }
-        }
-        for (int what = 0; what < 18; what++) {
-            told[n++] = x.turn(what);
-        }
-        for (int i = -1; i < 200; i++) {
-            for (int what = 0; what < 6; what++) {
-                told[n++] = x.condition(i, what);
-            }
-        }
-        for (int i = -1; i < 300; i++) {
-            for (int what = 0; what < 3; what++) {
-                told[n++] = x.entry(i, what);
-            }
-        }
-        for (int what = 0; what < 11; what++) {
-            told[n++] = x.account(what);
-        }
-        if (x.turn(0) > 0) {
-            for (int cell = 0; cell < 100; cell++) {
-                told[n++] = x.way(cell);
-            }
-        }
-        told[n++] = x.count(2);
-        return java.util.Arrays.copyOf(told, n);
-    }
 }

@@ -175,6 +175,20 @@ final class EdgesOfActing {
             x.cast(0, 1, 0);
             Due.is("past one down", x.move(2), 7);
         });
+        Edge.says("Acting", "no fighter of the other side", () -> {
+            EncounterLedger x = new EncounterLedger();
+            x.add(0, 1, 20, -5, 9);
+            x.add(1, 0, 20, 9, 9);
+            x.add(1, 10, 20, -5, 9);
+            x.wall(11);
+            x.wall(21);
+            x.begin(Due.seed(1, 20, 1));
+            Due.is("around the first fighter", x.way(2), 8);
+            x.wall(31);
+            Due.is("farther around it", x.way(2), 10);
+            Due.refused("one step too far", x, x.move(2), 6);
+            Due.is("past the third fighter", x.move(20), 7);
+        });
         Edge.says("Acting", "the cell must be free of fighters and walls.", () -> {
             EncounterLedger x = Edge.fighting("s0:h99");
             x.add(0, 43, 5, 0, 1);

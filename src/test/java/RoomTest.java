@@ -33,7 +33,7 @@ public final class RoomTest {
             x.add(i % 2, 40 + i, 99, i - 4, 5);
         }
         x.image();
-        for (int i = 0; i < CALLS / 16; i++) {
+        for (int i = 0; i < CALLS / 16 - 1; i++) {
             x.begin(i);
             x.cast(0, 44, 0);
             x.move(50 + i % 10);
