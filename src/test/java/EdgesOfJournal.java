@@ -256,7 +256,7 @@ final class EdgesOfJournal {
         if (number % 2 == 1) {
             x.move(45);
         }
-        while (x.entry(-1, 0) < number) {
+        for (int entries = 2 + number % 2; entries < number; entries += 2) {
             x.endTurn();
         }
         return x;
@@ -582,9 +582,6 @@ final class EdgesOfJournal {
             int first = x.begin(1);
             x.cast(0, 44, 0);
             Due.is("all of one side", x.account(1), 4);
-            while (x.turn(1) % 2 == first % 2) {
-                x.endTurn();
-            }
             Due.is("lives of one side", x.account(2 + first % 2), 20);
             Due.is("lives of the other side", x.account(3 - first % 2), 0);
             EncounterLedger y = Edge.fighting("s0:h99");
